@@ -13,7 +13,7 @@ public final class ModelTest {
         2, 1, 3, 2, 2, 2, 3, 3, 2, 1,
         0, 0, 1, 0, 2, 0, 1, 0};
     /** Listing more than this by the model takes too long; such calls are left out. */
-    private static final double MOST_EFFORT = 300_000;
+    private static final double MOST_EFFORT = 5_000_000;
 
     private final Random random;
     private final Checks checks;
@@ -30,7 +30,7 @@ public final class ModelTest {
     }
 
     public static void main(String[] args) {
-        int runs = args.length > 0 ? Integer.parseInt(args[0]) : 400;
+        int runs = args.length > 0 ? Integer.parseInt(args[0]) : 1500;
         long first = args.length > 1 ? Long.parseLong(args[1]) : 1;
         Checks checks = new Checks("ModelTest");
         for (int k = 0; k < runs; k++) {
@@ -44,18 +44,24 @@ public final class ModelTest {
         m = new Model();
         calls = 0;
         tags = random.nextInt(3) == 0 ? "abcdef" : random.nextBoolean() ? "ab" : "a";
-        treeSize = random.nextInt(4) == 0 ? 32 : 3 + random.nextInt(9);
+        treeSize = random.nextInt(3) == 0 ? 32 : 3 + random.nextInt(12);
+        write(documentText());
+        call("builds");
+        for (int i = 0; i < 4; i++) {
+            write(twigText());
+            call("twigs", i);
+        }
         while (calls < 500) {
-            int kind = random.nextInt(12);
+            int kind = random.nextInt(80);
             if (kind == 0) {
                 write(maybeSpoil(documentText()));
                 call("builds");
-            } else if (kind <= 2) {
+            } else if (kind <= 3) {
                 write(maybeSpoil(twigText()));
                 call("twigs", number(4));
-            } else if (kind <= 4) {
+            } else if (kind <= 15) {
                 change();
-            } else if (kind == 5) {
+            } else if (kind <= 18) {
                 call(NAMES[random.nextInt(NAMES.length)], wild(), wild(), wild(), wild());
             } else {
                 ask();
@@ -70,10 +76,10 @@ public final class ModelTest {
         int n = m.size();
         switch (random.nextInt(8)) {
             case 0: case 1: case 2:
-                call("adds", number(n), random.nextInt(4), tag(), value());
+                call("adds", number(n), child(), tag(), value());
                 break;
             case 3: case 4:
-                call("moves", number(n), number(n), random.nextInt(3));
+                call("moves", number(n), number(n), child());
                 break;
             case 5:
                 call("sets", number(n), tag(), value());
@@ -132,6 +138,10 @@ public final class ModelTest {
         call("place", i, told);
     }
 
+    private int child() {
+        return random.nextBoolean() ? 0 : random.nextInt(4) - random.nextInt(12) / 11;
+    }
+
     private int tag() {
         return random.nextInt(20) == 0 ? 6 : tags.charAt(random.nextInt(tags.length())) - 'a';
     }
@@ -142,8 +152,8 @@ public final class ModelTest {
 
     /** A number below n, now and then one that is just outside. */
     private int number(int n) {
-        if (random.nextInt(15) == 0) {
-            return random.nextBoolean() ? -1 : n;
+        if (random.nextInt(25) == 0) {
+            return random.nextInt(3) == 0 ? -1 : n;
         }
         return random.nextInt(Math.max(1, n));
     }
@@ -188,8 +198,8 @@ public final class ModelTest {
 
     private void branch(StringBuilder text, int[] left, boolean isRoot, boolean noOrder) {
         left[0]--;
-        text.append(random.nextInt(3) == 0 ? '*' : tags.charAt(random.nextInt(tags.length())));
-        if (random.nextInt(4) == 0) {
+        text.append(random.nextInt(2) == 0 ? '*' : tags.charAt(random.nextInt(tags.length())));
+        if (random.nextInt(8) == 0) {
             text.append("=<>".charAt(random.nextInt(3))).append(random.nextInt(10));
         }
         if (left[0] <= 0 || !isRoot && random.nextInt(2) == 0) {
