@@ -206,6 +206,26 @@ public final class MatchTest {
         c.due("found ordered", y.found(2, 1), Checks.set(1, 2, 3, 4, 5));
         c.due("found ordered", y.found(2, 2), Checks.set(1, 2, 3));
         c.due("found ordered", y.found(2, 3), Checks.set(2, 4));
+        // The b below d is no child of the root, so the c behind it is in no match.
+        TwigMatches z = Checks.made("a(d(b)cbc(bc(b)c))", "*(/b;/c)", "*(/b/c;/*)", "*(~d;~b/c;/b)");
+        int[][] far = {{Checks.set(0, 5), Checks.set(4, 6), Checks.set(5, 7, 9)},
+            {Checks.set(0, 5), Checks.set(4, 6), Checks.set(3, 7), Checks.set(4, 5, 9)},
+            {Checks.set(0), Checks.set(1), Checks.set(4, 6, 8), Checks.set(3), Checks.set(4)}};
+        for (int i = 0; i < far.length; i++) {
+            for (int q = 0; q < far[i].length; q++) {
+                c.due("found at several roots " + i + " " + q, z.found(i, q), far[i][q]);
+            }
+        }
+        TwigMatches w = Checks.made("a(a(cb)a(bc)bac)", "*(/b;/c)", "*(/c/b)", "*(/a/a;/b;/*)");
+        c.due("found at several roots", w.found(0, 0), Checks.set(0, 4));
+        c.due("found at several roots", w.found(0, 1), Checks.set(5, 7));
+        c.due("found at several roots", w.found(0, 2), Checks.set(6, 9));
+        c.due("found at several roots", w.found(1, 0), Checks.set(0, 1, 4));
+        c.due("found at several roots", w.found(1, 2), Checks.set(3, 5, 7));
+        c.due("found after unordered ones", w.found(2, 1), Checks.set(1, 4, 8));
+        c.due("found after unordered ones", w.found(2, 2), Checks.set(1, 4));
+        c.due("found after unordered ones", w.found(2, 3), Checks.set(7));
+        c.due("found after unordered ones", w.found(2, 4), Checks.set(8, 9));
     }
 
     /** Wrong calls of fits() and found(): 0 is answered, and the error is counted. */

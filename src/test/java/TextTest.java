@@ -158,6 +158,11 @@ public final class TextTest {
         twig("a(/b(/c;~d);/e(~f))", 6);
         twig("a(~b(~c(~d(~e(~f)))))", 6);
         twig("*(~*(/*;/*)/*=1;~*)", 6);
+        c.due("twigs without the tests of the one read before",
+                Checks.shown(Checks.made("a", "a=3(/b<2;/c>4)", "a(/b~c)"), 1), "a(/b~c)");
+        TwigMatches again = Checks.made("a3(b4(c5))");
+        Checks.build(again, "b(bb)");
+        c.due("builds without the values of the one read before", Checks.tree(again), "b(bb)");
         TwigMatches x = Checks.made("a", "a(/b/c/d)", "b");
         c.due("twigs in place of another", Checks.twig(x, 0, "c(~d)"), 2);
         c.due("twigs in place of another shown", Checks.shown(x, 0), "c(~d)");

@@ -14,6 +14,7 @@ public final class TreeTest {
         drops();
         sets();
         moves();
+        movesOneByOne();
         movesNot();
         element();
         size();
@@ -147,6 +148,25 @@ public final class TreeTest {
         move(tree, 2, 1, 1, 3, "a(b1(d3c2)e4(f5)b6)");
         move("a(b(c(d)))", 3, 1, 1, 3, "a(b(cd))");
         move("a(b(c(d)))", 3, 0, 1, 3, "a(b(c)d)");
+    }
+
+    private static void movesOneByOne() {
+        TwigMatches x = new TwigMatches();
+        x.adds(0, 0, 1, 0);
+        x.adds(1, 0, 2, 0);
+        x.adds(0, 1, 3, 0);
+        c.due("moves one by one", x.moves(2, 3, 0), 3);
+        c.due("moves one by one tree", Checks.tree(x), "a(bd(c))");
+        int[][] want = {{NONE, 1, 8, 1, 2, 3}, {0, 2, 3, 2, 0, 0}, {0, 4, 7, 2, 1, 1}, {2, 5, 6, 3, 0, 0}};
+        for (int e = 0; e < want.length; e++) {
+            for (int what = 2; what < 8; what++) {
+                c.due("moves then element " + e + " " + what, x.element(e, what), want[e][what - 2]);
+            }
+        }
+        c.due("moves one by one", x.moves(2, 1, 0), 2);
+        c.due("moves one by one tree", Checks.tree(x), "a(b(d(c)))");
+        c.due("moves one by one", x.moves(3, 0, 0), 1);
+        c.due("moves one by one tree", Checks.tree(x), "a(cb(d))");
     }
 
     private static void movesNot() {
