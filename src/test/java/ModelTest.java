@@ -98,8 +98,7 @@ public final class ModelTest {
         int i = number(4);
         int q = number(i >= 0 && i < 4 ? m.nodes(i) : 6);
         if (i < 0 || i > 3) {
-            x.nodes(i);
-            m.nodes(i);
+            call("nodes", i);
         }
         switch (random.nextInt(16)) {
             case 0: call("element", number(n), number(8)); break;
